@@ -610,17 +610,14 @@ public final class LawNumberer {
             return label >> SUFFIX_BITS;
         }
 
-        private static int shiftOf(int i) {
-            return SUFFIX_BITS - LETTER_BITS * (i + 1);
-        }
-
         /** Letter i of the SUFFIX, 1 to 26; 0: it has ended. */
         static int letterOf(int label, int i) {
-            return label >> shiftOf(i) & LETTER_MASK;
+            return label >> SUFFIX_BITS - LETTER_BITS * (i + 1) & LETTER_MASK;
         }
 
         private static int setLetter(int label, int i, int letter) {
-            return label & ~(LETTER_MASK << shiftOf(i)) | letter << shiftOf(i);
+            int shift = SUFFIX_BITS - LETTER_BITS * (i + 1);
+            return label & ~(LETTER_MASK << shift) | letter << shift;
         }
 
         static int lettersIn(int label) {
@@ -715,17 +712,7 @@ public final class LawNumberer {
         private static final int TO_SMALL = 'a' - 'A';
 
         static void writeLabel(Text text, int form, int label) {
-            writeNumber(text, form, Labels.numberOf(label));
-            int letters = Labels.lettersIn(label);
-            if (letters > 0 && form != NUMBER) {
-                text.put('-');
-            }
-            for (int i = 0; i < letters; i++) {
-                text.put('A' - 1 + Labels.letterOf(label, i));
-            }
-        }
-
-        private static void writeNumber(Text text, int form, int number) {
+            int number = Labels.numberOf(label);
             switch (form) {
                 case ROMAN:
                     writeRoman(text, number, 0);
@@ -739,6 +726,13 @@ public final class LawNumberer {
                 default:
                     writeDigits(text, number);
                     break;
+            }
+            int letters = Labels.lettersIn(label);
+            if (letters > 0 && form != NUMBER) {
+                text.put('-');
+            }
+            for (int i = 0; i < letters; i++) {
+                text.put('A' - 1 + Labels.letterOf(label, i));
             }
         }
 

@@ -14,6 +14,7 @@ public final class PromisesTest {
         addThrough();
         strike();
         renumber();
+        renumberOften();
         renumberThrough();
         error();
         undo();
@@ -170,6 +171,9 @@ public final class PromisesTest {
         levelsFault("numberthrough;", 2, 0);
         levelsFault("number throughs;", 2, 7);
         levelsFault("num1ber;", 2, 0);
+        levelsFault("z;", 2, 0);
+        levelsFault("a;", 2, 0);
+        levelsFault("numberz;", 2, 0);
         levelsFault("number1;", 1, 6);
         levelsFault("Number;", 1, 0);
         levelsFault("number;\tletter;", 1, 7);
@@ -349,6 +353,26 @@ public final class PromisesTest {
         Check.due("all have none", Check.label(x, 0, 0) + Check.label(x, 1, 0), "--");
         Check.due("so the next", x.add(NONE, 1), 2);
         Check.due("is the first", Check.label(x, 2, 0), "1");
+    }
+
+    /** More labels given than the first rows of the history hold. */
+    private static void renumberOften() {
+        LawNumberer x = withTop(60);
+        for (int day = 1; day <= 20; day++) {
+            x.wait(1);
+            x.strike(day - 1);
+            Check.due("renumber on day " + day, x.renumber(0), true);
+        }
+        for (int day = 0; day <= 20; day++) {
+            Check.due("the first on day " + day, Check.label(x, day, day), "1");
+            Check.due("the last one on day " + day, Check.label(x, 59, day), String.valueOf(60 - day));
+            Check.due("none on day " + day, x.label(day - 1, day), NONE);
+        }
+        for (int i = 0; i < 20; i++) {
+            x.undo();
+            x.undo();
+            Check.due("undone " + i, Check.label(x, 59, 20), String.valueOf(60 - 19 + i));
+        }
     }
 
     private static void renumberThrough() {
