@@ -171,6 +171,11 @@ public final class PromisesTest {
         levelsFault("numberthrough;", 2, 0);
         levelsFault("number throughs;", 2, 7);
         levelsFault("num1ber;", 2, 0);
+        levelsFault("cumber;", 2, 0);
+        levelsFault("woman;", 2, 0);
+        levelsFault("better;", 2, 0);
+        levelsFault("shall;", 2, 0);
+        levelsFault("number shrough;", 2, 7);
         levelsFault("z;", 2, 0);
         levelsFault("a;", 2, 0);
         levelsFault("numberz;", 2, 0);
@@ -722,6 +727,8 @@ public final class PromisesTest {
         citeFault("VV", 2, 0);
         citeFault("IM", 2, 0);
         citeFault("IIX", 2, 0);
+        citeFault("IXX", 2, 0);
+        citeFault("XIXX", 2, 0);
         citeFault("M", 2, 0);
         citeFault("MI", 2, 0);
         citeFault("CMXCIX", 0, NONE);
