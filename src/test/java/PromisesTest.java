@@ -33,25 +33,6 @@ public final class PromisesTest {
         Check.finish();
     }
 
-    private static LawNumberer with(String levels) {
-        LawNumberer x = new LawNumberer();
-        Check.due("levels of " + levels, Check.levels(x, levels) > 0, true);
-        return x;
-    }
-
-    /** A new object with n ITEMS at the top: 0 .. n - 1. */
-    private static LawNumberer withTop(int n) {
-        LawNumberer x = new LawNumberer();
-        addTop(x, n);
-        return x;
-    }
-
-    private static void addTop(LawNumberer x, int n) {
-        for (int i = 0; i < n; i++) {
-            Check.due("add " + i, x.add(NONE, i - 1), i);
-        }
-    }
-
     // Promise 1
     private static void newObject() {
         LawNumberer x = new LawNumberer();
@@ -118,7 +99,7 @@ public final class PromisesTest {
 
     // Promises 4, 5 and 17
     private static void levels() {
-        LawNumberer x = withTop(2);
+        LawNumberer x = Check.withTop(2);
         x.wait(7);
         x.label(1, 0);
         Check.due("cite", Check.cite(x, "2", 0), 1);
@@ -145,60 +126,51 @@ public final class PromisesTest {
         Check.due("no old label", Check.label(x, 0, 0), "1");
     }
 
-    private static void levelsFault(String text, int kind, int place) {
-        LawNumberer x = new LawNumberer();
-        Check.due("levels " + text, Check.levels(x, text), -1 - place);
-        Check.due("fault of " + text, x.fault(), kind);
-        Check.due("place in " + text, x.place(), place);
-        Check.due("tape behind " + text, x.count(6), 0);
-        Check.due("levels behind " + text, x.count(0), 2);
-    }
-
     private static void levelsFaults() {
-        levelsFault("", 2, 0);
-        levelsFault(" \n ", 2, 3);
-        levelsFault(";", 2, 0);
-        levelsFault("through;", 2, 0);
-        levelsFault("number", 2, 6);
-        levelsFault("number ", 2, 7);
-        levelsFault("number through", 2, 14);
-        levelsFault("number;;", 2, 7);
-        levelsFault("number number;", 2, 7);
-        levelsFault("number through through;", 2, 15);
-        levelsFault("number;through;", 2, 7);
-        levelsFault("numbers;", 2, 0);
-        levelsFault("numbe;", 2, 0);
-        levelsFault("numberthrough;", 2, 0);
-        levelsFault("number throughs;", 2, 7);
-        levelsFault("num1ber;", 2, 0);
-        levelsFault("cumber;", 2, 0);
-        levelsFault("woman;", 2, 0);
-        levelsFault("better;", 2, 0);
-        levelsFault("shall;", 2, 0);
-        levelsFault("number shrough;", 2, 7);
-        levelsFault("z;", 2, 0);
-        levelsFault("a;", 2, 0);
-        levelsFault("numberz;", 2, 0);
-        levelsFault("number1;", 1, 6);
-        levelsFault("Number;", 1, 0);
-        levelsFault("number;\tletter;", 1, 7);
-        levelsFault("number;\rletter;", 1, 7);
-        levelsFault("number;{", 1, 7);
-        levelsFault("number;`", 1, 7);
-        levelsFault("number;\u00ff", 1, 7);
-        levelsFault("number;\0", 1, 7);
-        levelsFault("number;letter;roman;small;number;", 3, 26);
-        levelsFault("number;letter;roman;small; small", 3, 27);
-        levelsFault("number;letter;roman;small;other", 2, 26);
-        levelsFault("number;letter;roman;small;through", 2, 26);
-        levelsFault("number;letter;roman;small;;", 2, 26);
-        levelsFault("number;letter;roman;small;1", 1, 26);
-        levelsFault("number;letter;roman;small letter", 2, 26);
+        Check.levelsFault("", 2, 0);
+        Check.levelsFault(" \n ", 2, 3);
+        Check.levelsFault(";", 2, 0);
+        Check.levelsFault("through;", 2, 0);
+        Check.levelsFault("number", 2, 6);
+        Check.levelsFault("number ", 2, 7);
+        Check.levelsFault("number through", 2, 14);
+        Check.levelsFault("number;;", 2, 7);
+        Check.levelsFault("number number;", 2, 7);
+        Check.levelsFault("number through through;", 2, 15);
+        Check.levelsFault("number;through;", 2, 7);
+        Check.levelsFault("numbers;", 2, 0);
+        Check.levelsFault("numbe;", 2, 0);
+        Check.levelsFault("numberthrough;", 2, 0);
+        Check.levelsFault("number throughs;", 2, 7);
+        Check.levelsFault("num1ber;", 2, 0);
+        Check.levelsFault("cumber;", 2, 0);
+        Check.levelsFault("woman;", 2, 0);
+        Check.levelsFault("better;", 2, 0);
+        Check.levelsFault("shall;", 2, 0);
+        Check.levelsFault("number shrough;", 2, 7);
+        Check.levelsFault("z;", 2, 0);
+        Check.levelsFault("a;", 2, 0);
+        Check.levelsFault("numberz;", 2, 0);
+        Check.levelsFault("number1;", 1, 6);
+        Check.levelsFault("Number;", 1, 0);
+        Check.levelsFault("number;\tletter;", 1, 7);
+        Check.levelsFault("number;\rletter;", 1, 7);
+        Check.levelsFault("number;{", 1, 7);
+        Check.levelsFault("number;`", 1, 7);
+        Check.levelsFault("number;\u00ff", 1, 7);
+        Check.levelsFault("number;\0", 1, 7);
+        Check.levelsFault("number;letter;roman;small;number;", 3, 26);
+        Check.levelsFault("number;letter;roman;small; small", 3, 27);
+        Check.levelsFault("number;letter;roman;small;other", 2, 26);
+        Check.levelsFault("number;letter;roman;small;through", 2, 26);
+        Check.levelsFault("number;letter;roman;small;;", 2, 26);
+        Check.levelsFault("number;letter;roman;small;1", 1, 26);
+        Check.levelsFault("number;letter;roman;small letter", 2, 26);
     }
 
     // Promise 6
     private static void add() {
-        LawNumberer x = withTop(2);
+        LawNumberer x = Check.withTop(2);
         Check.due("ahead of all", x.add(NONE, NONE), -2);
         Check.due("under 1", x.add(1, NONE), 2);
         Check.due("under 0", x.add(0, NONE), 3);
@@ -215,7 +187,7 @@ public final class PromisesTest {
         }
         Check.due("nothing came", x.count(1), 6);
         Check.due("acts", x.count(4), 6);
-        x = withTop(79);
+        x = Check.withTop(79);
         Check.due("the last one", x.add(0, NONE), 79);
         Check.due("beyond 80", x.add(NONE, 78), -1);
         Check.due("beyond 80, no label", x.add(NONE, NONE), -1);
@@ -224,20 +196,11 @@ public final class PromisesTest {
     }
 
     private static void between(String a, String b, String want) {
-        LawNumberer x = withTop(2);
-        Check.due("error " + a, error(x, 0, a), true);
-        Check.due("error " + b, error(x, 1, b), true);
+        LawNumberer x = Check.withTop(2);
+        Check.due("error " + a, Check.error(x, 0, a), true);
+        Check.due("error " + b, Check.error(x, 1, b), true);
         Check.due("between " + a + " and " + b, x.add(NONE, 0), want.equals("-") ? -2 : 2);
         Check.due("label between " + a + " and " + b, Check.label(x, 2, 0), want);
-    }
-
-    private static boolean error(LawNumberer x, int k, String label) {
-        int letters = 0;
-        while (letters < label.length() && Character.isDigit(label.charAt(letters))) {
-            letters++;
-        }
-        int number = Integer.parseInt(label.substring(0, letters));
-        return x.error(k, number, Check.suffix(label.substring(letters)));
     }
 
     private static void addBetween() {
@@ -257,22 +220,22 @@ public final class PromisesTest {
     }
 
     private static void addRefused() {
-        LawNumberer x = withTop(1);
-        error(x, 0, "5");
+        LawNumberer x = Check.withTop(1);
+        Check.error(x, 0, "5");
         Check.due("ahead of 5", x.add(NONE, NONE), 1);
         Check.due("its label", Check.label(x, 1, 0), "1");
-        error(x, 1, "1A");
+        Check.error(x, 1, "1A");
         Check.due("ahead of 1A", x.add(NONE, NONE), 2);
         Check.due("its label", Check.label(x, 2, 0), "1");
         Check.due("ahead of 1", x.add(NONE, NONE), -2);
-        error(x, 2, "1BB");
+        Check.error(x, 2, "1BB");
         Check.due("ahead of 1BB", x.add(NONE, NONE), 3);
         Check.due("its label", Check.label(x, 3, 0), "1");
-        error(x, 0, "998ZZZZ");
+        Check.error(x, 0, "998ZZZZ");
         Check.due("behind 998ZZZZ", x.add(NONE, 0), 4);
         Check.due("its label", Check.label(x, 4, 0), "999");
         Check.due("behind 999", x.add(NONE, 4), -2);
-        error(x, 4, "999A");
+        Check.error(x, 4, "999A");
         Check.due("behind 999A", x.add(NONE, 4), -2);
         Check.due("refused ones do not come", x.count(1), 5);
         Check.due("refused ones are no acts", x.count(4), 10);
@@ -281,14 +244,14 @@ public final class PromisesTest {
     }
 
     private static void addThrough() {
-        LawNumberer x = with("roman;number through;letter;");
+        LawNumberer x = Check.with("roman;number through;letter;");
         x.add(NONE, NONE);
         x.add(NONE, 0);
         x.add(NONE, 1);
         Check.due("in the third", x.add(2, NONE), 3);
         Check.due("refused between none and 1", x.add(0, NONE), -2);
         Check.due("none came", x.count(1), 4);
-        error(x, 3, "2");
+        Check.error(x, 3, "2");
         Check.due("in the first", x.add(0, NONE), 4);
         Check.due("1 ahead of 2", Check.label(x, 4, 0), "1");
         Check.due("in the second", x.add(1, NONE), 5);
@@ -305,7 +268,7 @@ public final class PromisesTest {
 
     // Promise 7
     private static void strike() {
-        LawNumberer x = withTop(3);
+        LawNumberer x = Check.withTop(3);
         x.add(1, NONE);
         Check.due("strike", x.strike(1), true);
         Check.due("again", x.strike(1), false);
@@ -327,7 +290,7 @@ public final class PromisesTest {
 
     // Promise 8
     private static void renumber() {
-        LawNumberer x = withTop(4);
+        LawNumberer x = Check.withTop(4);
         x.add(NONE, 0);
         x.strike(1);
         x.wait(5);
@@ -351,7 +314,7 @@ public final class PromisesTest {
         Check.due("acts", x.count(4), 10);
         x.error(1, 7, 0);
         Check.due("a struck one has one again", Check.label(x, 1, 5), "7");
-        x = withTop(2);
+        x = Check.withTop(2);
         x.strike(0);
         x.strike(1);
         x.renumber(0);
@@ -362,7 +325,7 @@ public final class PromisesTest {
 
     /** More labels given than the first rows of the history hold. */
     private static void renumberOften() {
-        LawNumberer x = withTop(60);
+        LawNumberer x = Check.withTop(60);
         for (int day = 1; day <= 20; day++) {
             x.wait(1);
             x.strike(day - 1);
@@ -381,8 +344,8 @@ public final class PromisesTest {
     }
 
     private static void renumberThrough() {
-        LawNumberer x = with("number;letter through;small;");
-        addTop(x, 2);
+        LawNumberer x = Check.with("number;letter through;small;");
+        Check.addTop(x, 2);
         x.add(0, NONE);
         x.add(0, 2);
         x.add(1, NONE);
@@ -403,7 +366,7 @@ public final class PromisesTest {
 
     // Promise 9
     private static void error() {
-        LawNumberer x = withTop(3);
+        LawNumberer x = Check.withTop(3);
         int acts = 3;
         int[][] wrong = {{-1, 1, 0}, {3, 1, 0}, {Integer.MAX_VALUE, 1, 0}, {1, 0, 0}, {1, 1000, 0}, {1, -1, 0},
             {1, Integer.MIN_VALUE, 0}, {1, Integer.MAX_VALUE, 0}, {1, 1, 64}, {1, 1, 91}, {1, 1, 'a'}, {1, 1, 1},
@@ -416,21 +379,21 @@ public final class PromisesTest {
         Check.due("no acts", x.count(4), acts);
         String[] right = {"1", "999", "1A", "1Z", "1AZ", "1ZA", "1MNO", "999ZZZZ", "500AAAA", "1"};
         for (String label : right) {
-            Check.due("error " + label, error(x, 1, label), true);
+            Check.due("error " + label, Check.error(x, 1, label), true);
             Check.due("label", Check.label(x, 1, 0), label);
         }
         Check.due("whatever others have", Check.label(x, 0, 0), "1");
         Check.due("acts", x.count(4), acts + right.length);
         x.strike(2);
-        Check.due("a struck one", error(x, 2, "4B"), true);
+        Check.due("a struck one", Check.error(x, 2, "4B"), true);
         Check.due("its label", Check.label(x, 2, 0), "4B");
-        Check.due("what it has already", error(x, 2, "4B"), true);
+        Check.due("what it has already", Check.error(x, 2, "4B"), true);
         Check.due("is an act", x.count(4), acts + right.length + 3);
     }
 
     // Promise 10
     private static void undo() {
-        LawNumberer x = withTop(3);
+        LawNumberer x = Check.withTop(3);
         x.add(0, NONE);
         x.wait(10);
         x.strike(1);
@@ -479,7 +442,7 @@ public final class PromisesTest {
     }
 
     private static void undoHundred() {
-        LawNumberer x = withTop(2);
+        LawNumberer x = Check.withTop(2);
         for (int i = 1; i <= 130; i++) {
             Check.due("error " + i, x.error(0, i, 0), true);
             Check.due("acts", x.count(4), Math.min(100, i + 2));
@@ -523,8 +486,8 @@ public final class PromisesTest {
 
     // Promise 12
     private static void about() {
-        LawNumberer x = with("number;letter through;small;");
-        addTop(x, 2);
+        LawNumberer x = Check.with("number;letter through;small;");
+        Check.addTop(x, 2);
         x.add(0, NONE);
         x.add(0, 2);
         x.wait(4);
@@ -548,7 +511,7 @@ public final class PromisesTest {
 
     // Promise 13
     private static void label() {
-        LawNumberer x = withTop(1);
+        LawNumberer x = Check.withTop(1);
         x.wait(5);
         x.add(NONE, 0);
         x.error(0, 3, 0);
@@ -574,7 +537,7 @@ public final class PromisesTest {
     }
 
     private static void form(String form, int[] numbers, String[] labels) {
-        LawNumberer x = with(form + ";");
+        LawNumberer x = Check.with(form + ";");
         x.add(NONE, NONE);
         for (int i = 0; i < numbers.length; i++) {
             x.error(0, numbers[i], 0);
@@ -602,7 +565,7 @@ public final class PromisesTest {
 
     // Promise 14
     private static void cited() {
-        LawNumberer x = with("roman;number;letter;small;");
+        LawNumberer x = Check.with("roman;number;letter;small;");
         x.add(NONE, NONE);
         x.add(0, NONE);
         x.wait(1);
@@ -632,7 +595,7 @@ public final class PromisesTest {
 
     // Promise 15
     private static void octet() {
-        LawNumberer x = withTop(1);
+        LawNumberer x = Check.withTop(1);
         Check.noSuch("octet of an empty out", () -> x.octet(0));
         x.error(0, 12, Check.suffix("AB"));
         x.label(0, 0);
@@ -650,7 +613,7 @@ public final class PromisesTest {
 
     // Promises 16 and 18
     private static void cite() {
-        LawNumberer x = withTop(3);
+        LawNumberer x = Check.withTop(3);
         x.add(1, NONE);
         x.add(2, NONE);
         x.wait(10);
@@ -692,7 +655,7 @@ public final class PromisesTest {
     }
 
     private static void citeFault(String text, int kind, int place) {
-        LawNumberer x = with("roman;number;letter;small;");
+        LawNumberer x = Check.with("roman;number;letter;small;");
         Check.due("cite " + text, Check.cite(x, text, 0), kind == 0 ? NONE : -2);
         Check.due("fault of " + text, x.fault(), kind);
         Check.due("place in " + text, x.place(), place);
@@ -815,36 +778,36 @@ public final class PromisesTest {
 
     // Promise 21
     private static void clash() {
-        LawNumberer x = withTop(4);
+        LawNumberer x = Check.withTop(4);
         Check.due("none", x.clash(), NONE);
-        error(x, 3, "3");
+        Check.error(x, 3, "3");
         Check.due("equal", x.clash(), 3);
-        error(x, 3, "2A");
+        Check.error(x, 3, "2A");
         Check.due("below", x.clash(), 3);
-        error(x, 2, "2");
+        Check.error(x, 2, "2");
         Check.due("the first one", x.clash(), 2);
-        error(x, 2, "2AA");
+        Check.error(x, 2, "2AA");
         Check.due("below what ended earlier", x.clash(), 3);
-        error(x, 2, "1ZZZZ");
+        Check.error(x, 2, "1ZZZZ");
         Check.due("below", x.clash(), 2);
         for (int i = 0; i < 5; i++) {
             x.undo();
         }
         Check.due("none again", x.clash(), NONE);
         x.strike(1);
-        error(x, 1, "9");
+        Check.error(x, 1, "9");
         Check.due("a struck one counts", x.clash(), 2);
         x.renumber(1);
         Check.due("one without counts not", x.clash(), NONE);
-        error(x, 1, "1");
+        Check.error(x, 1, "1");
         Check.due("a struck one clashes", x.clash(), 1);
         LawNumberer y = new LawNumberer();
-        addTop(y, 2);
+        Check.addTop(y, 2);
         y.add(0, NONE);
         y.add(1, NONE);
         Check.due("under others", y.clash(), NONE);
         Check.levels(y, "number;letter through;");
-        addTop(y, 2);
+        Check.addTop(y, 2);
         y.add(0, NONE);
         y.add(1, NONE);
         Check.due("through", y.clash(), NONE);
@@ -857,7 +820,7 @@ public final class PromisesTest {
 
     // Promises 22 and 23
     private static void atAndCount() {
-        LawNumberer x = withTop(2);
+        LawNumberer x = Check.withTop(2);
         x.add(0, NONE);
         int[] order = {0, 2, 1};
         for (int i = 0; i < order.length; i++) {

@@ -45,9 +45,9 @@ public final class RandomRunsTest {
             case "letter":
                 return letters(number);
             case "roman":
-                return roman(number);
+                return Check.roman(number);
             default:
-                return roman(number).toLowerCase();
+                return Check.roman(number).toLowerCase();
         }
     }
 
@@ -57,13 +57,6 @@ public final class RandomRunsTest {
             text = (char) ('a' + (n - 1) % 26) + text;
         }
         return text;
-    }
-
-    private static String roman(int number) {
-        String[] hundreds = {"", "C", "CC", "CCC", "CD", "D", "DC", "DCC", "DCCC", "CM"};
-        String[] tens = {"", "X", "XX", "XXX", "XL", "L", "LX", "LXX", "LXXX", "XC"};
-        String[] ones = {"", "I", "II", "III", "IV", "V", "VI", "VII", "VIII", "IX"};
-        return hundreds[number / 100] + tens[number / 10 % 10] + ones[number % 10];
     }
 
     private static final List<String> FORMS = List.of("number", "roman", "letter", "small");
