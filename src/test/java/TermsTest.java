@@ -1162,6 +1162,8 @@ public final class TermsTest {
         Check.due("all undone", x.count(3), 10);
         x.add(NONE, NONE);
         Check.due("came", x.about(0, 5), 10);
+        Check.due("none ahead of that", Check.label(x, 0, 9), "-");
+        Check.due("from then on", Check.label(x, 0, 10), "1");
     }
 
     private static void throwsChangeNothing() {
